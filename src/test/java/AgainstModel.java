@@ -7,6 +7,13 @@ import java.util.Random;
 /** Runs of chance calls, always the same ones, answered by the class and by the model alike. */
 public final class AgainstModel {
     private static final int RUNS = 400, CALLS = 512, FAULTS = 3000;
+    /** Nets whose walker takes some 40 steps, for the edges that chance nets seldom come near. */
+    private static final String[] SLOW = {
+        "B71J40J50J60J40J50J91P02P54P21P42P41W1915", "B17J51J70J40J30J40J30P04P43P25P41P03P35P05W3910",
+        "B26J30J40J30J30J91J30P21P54P01P30P25P15W3914", "B07J51J30J30J80J30J40P15P43P03P54P52P42W4910",
+        "B09J30J90J50J40J81J00P03P24P43P53P52P45P12W1914", "B72J30J60J50J81J40J30P13P14P24P52P21P50W2913",
+        "B91J90J10J11P01P12W0912", "B09J81J70J50P10P12W1920",
+    };
     private static int wrong = 0;
     private static final Map<String, Integer> seen = new HashMap<>();
 
@@ -54,6 +61,11 @@ public final class AgainstModel {
 
     /** A text that is mostly a net; parts come in mixed order. */
     private String netText() {
+        if (random.nextInt(6) == 0) return SLOW[random.nextInt(SLOW.length)] + (random.nextBoolean() ? "W0910" : "");
+        return freeText();
+    }
+
+    private String freeText() {
         StringBuilder text = new StringBuilder("B").append(random.nextInt(10)).append(random.nextInt(6));
         int joints = 0, wanted = 2 + random.nextInt(5), lids = 1 + random.nextInt(3);
         while (joints < wanted) {
