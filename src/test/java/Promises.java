@@ -469,8 +469,7 @@ public final class Promises {
         due("where", x.comes(0, 1), 2);
         due("ahead(19, 0)", x.ahead(19, 0), 0);
         due("ahead(20, 0)", x.ahead(20, 0), 1);
-        // This one takes 41 steps: no answer found by hand, but a net looked for with the class; the model
-        // answers the same for it.
+        // This one takes 41 steps; EdgesAhead tells its way, step by step.
         ManholeBirths y = told("B07J51J30J30J80J30J40P15P43P03P54P52P42W4910");
         due("not in 40", y.comes(0, 0), NONE);
         due("not in 40", y.comes(0, 1), NONE);
@@ -831,6 +830,8 @@ public final class Promises {
             due("seed", x.seed(0), drawn(seed, 2).longValue());
         }
         for (int left = 0; left < 14; left++) due("seeds for " + left, seen[left] ? 1 : 0, 1);
+        // What an object answers behind 512 calls is free.
+        x = told("B00J00J11P01W0101");
         x.seed(1);
         x.years(30);
         due("seed of 30", x.seed(0), drawn(1, 30).longValue());
