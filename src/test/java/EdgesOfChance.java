@@ -174,8 +174,8 @@ final class EdgesOfChance {
 
     // ---- years
 
-    private static final BigInteger FACTOR = new BigInteger("6364136223846793005"),
-    MORE = new BigInteger("1442695040888963407");
+    private static final BigInteger FACTOR = new BigInteger("6364136223846793005");
+    private static final BigInteger MORE = new BigInteger("1442695040888963407");
 
     /** THE SEED behind so many draws, from 0 to 2 to the 64th. */
     private static BigInteger drawn(long seed, int times) {
@@ -210,8 +210,7 @@ final class EdgesOfChance {
             "seed(0) = " + drawn(7, 60).longValue());
     }
 
-    /** Eight pipes, of which this one alone is at joint 0,
-    where the walker is; its lid and own joint is at the other end. */
+    /** Eight pipes, of which this one alone is at joint 0, where the walker is; its lid and own joint is at the other end. */
     private static String byPipe(int pipe) {
         StringBuilder pipes = new StringBuilder("P12P13P14P15P23P24P25");
         return pipes.insert(3 * pipe, "P01").insert(0, "B00J00J01J00J00J00J00").append("W0101").toString();

@@ -1,8 +1,7 @@
 /** Edges of THE TIDE, of NEXT and of A STEP: the middle of part 1, promises 6 to 9. */
 final class EdgesOfWalks {
     private static final String RING = "B52J60J31J81J11P01P12P23P30W0212W2100";
-    /** Joint 0 in the middle of 1 (level 7), 2 (level 2), 3 (level 9); its walker, at 0,
-    turns UP and never comes up. */
+    /** Joint 0 in the middle of 1 (level 7), 2 (level 2), 3 (level 9); its walker, at 0, turns UP and never comes up. */
     private static final String STAR = "B00J50J70J20J90P01P02P03W0900";
     private static final String SIX_JOINTS = "B00J00J00J00J00J00J00";
     /** Four lids in a ring 0-1-3-2, four walkers of whom each comes up at its own, another one, in the first step. */
